@@ -1,0 +1,128 @@
+import java.util.ArrayList;
+import java.util.List;
+
+/**
+ * When a call throws, nothing has changed: an object with the call and its twin without it answer
+ * alike ever after. Each part of the questions is asked of fresh twins, for an object is used for
+ * at most 512 calls.
+ */
+public final class NothingChangesTest {
+    private static final int PART = 300;
+
+    private static final String[] GROWN = {
+        "makeFile 0 0 0; makeFile 1 0 1; makeDirectory 0 0 2; makeDirectory 1 1 0",
+        "makeDirectory 2 0 4; link 0 1 5 0; link 1 2 6 0; makeFile 0 2 7; remove 0 0 1",
+        "split 0 0; split 0 6; split 3 0; lookup 0 0 0; lookup 1 0 0; lookup 2 1 0",
+        "lookup 3 2 9; lookup 3 0 9; beginMove 3 0 2; stepMove; stepMove; pass 4",
+        "lookup 0 3 0; lookup 0 0 0; lookup 1 1 1; lookup 1 2 7; lookup 2 0 20; lookup 2 0 21",
+    };
+
+    private static final String[] CALLS_THAT_THROW = {
+        "lookup 4 0 0; lookup 0 0 50; lookup 0 9 0; lookup -1 9 0",
+        "makeDirectory 4 0 30; makeDirectory 0 0 50; makeDirectory 0 9 0; makeDirectory 0 0 0",
+        "makeFile 4 0 30; makeFile 0 0 50; makeFile 0 9 0; makeFile 0 0 0; makeFile 0 0 2",
+        "link 4 0 30 0; link 0 0 50 0; link 0 9 0 0; link 0 0 30 9; link 0 0 30 1; link 0 0 0 0",
+        "remove 4 0 0; remove 0 0 50; remove 0 9 0; remove 0 0 30; remove 3 0 2",
+        "rename 4 0 0 0 30; rename 0 0 50 0 30; rename 0 0 0 0 50; rename 0 9 0 0 30",
+        "rename 0 0 0 9 30; rename 0 0 30 0 31; rename 0 0 0 1 5; rename 0 0 2 2 30",
+        "rename 1 0 2 1 30; rename 3 0 0 0 0; pass 0; pass 101; leases 4; recalls 4; known 4",
+        "split 0 8; split 9 0; merge 0 8; merge 9 0; merge 0 0; merge 1 0; merge 3 0; merge 3 7",
+        "fragments 9; serverOf 0 50; serverOf 9 0; ownerOf 0 8; ownerOf 9 0; load 4",
+        "beginMove 0 8 1; beginMove 0 0 4; beginMove 9 0 1; beginMove 0 0 0; stepMove",
+        "giveUpMove; isFrozen 0 50; isFrozen 9 0; links 9; links -1; anchor 9; byTree 0 50",
+        "byTree 9 0; size 9",
+    };
+
+    private static final String[] CALLS_THAT_THROW_WHILE_MOVING = {
+        "makeDirectory 0 1 30; makeFile 0 1 30; makeFile 0 2 31; link 0 1 30 0; remove 0 1 5",
+        "remove 0 1 0; remove 0 0 2; rename 0 1 5 0 30; rename 0 0 0 1 30; rename 0 1 0 1 30",
+        "split 1 0; split 2 7; merge 1 0; beginMove 1 0 3; beginMove 0 0 1; beginMove 3 4 3",
+        "balance; beginMove 0 0 4; remove 4 1 5; link 0 1 30 1",
+    };
+
+    public static void main(String[] args) {
+        String[] none = {};
+        throwing(GROWN, none, CALLS_THAT_THROW);
+        throwing(GROWN, new String[] {"beginMove 1 0 1"}, CALLS_THAT_THROW_WHILE_MOVING);
+        throwing(GROWN, new String[] {"beginMove 1 0 1; stepMove"}, CALLS_THAT_THROW_WHILE_MOVING);
+        throwing(full(), none, new String[] {
+            "makeDirectory 0 0 30; makeFile 0 0 30; makeDirectory 1 1 30; makeFile 2 1 30"});
+        Script.end();
+    }
+
+    private static String[] full() {
+        StringBuilder rows = new StringBuilder();
+        for (int name = 0; name < 11; name++) {
+            rows.append("makeDirectory 0 0 ").append(name).append(';');
+        }
+        for (int name = 0; name < 30; name++) {
+            rows.append("makeFile 1 1 ").append(name).append(';');
+        }
+        rows.append("lookup 0 0 30; lookup 3 0 30; lookup 2 1 30; lookup 0 1 30");
+        return new String[] {rows.toString()};
+    }
+
+    private static void throwing(String[] grown, String[] more, String[] calls) {
+        List<String> before = new ArrayList<>(Script.lines(grown));
+        before.addAll(Script.lines(more));
+        for (String call : Script.lines(calls)) {
+            for (List<String> part : questions()) {
+                twins(before, call, part);
+            }
+        }
+    }
+
+    private static void twins(List<String> before, String call, List<String> questions) {
+        DirectoryServers one = new DirectoryServers();
+        DirectoryServers twin = new DirectoryServers();
+        for (String row : before) {
+            String answer = Script.answer(one, row);
+            Script.due("ahead of " + call + ": " + row, Script.answer(twin, row), answer);
+            Script.due(row + " does not throw", "" + answer.startsWith("throws"), "false");
+        }
+        Script.due(call + " throws", "" + Script.answer(one, call).startsWith("throws.I"), "true");
+        for (String question : questions) {
+            Script.due("behind " + call + ": " + question,
+                    Script.answer(one, question), Script.answer(twin, question));
+        }
+    }
+
+    private static List<List<String>> questions() {
+        List<String> all = new ArrayList<>();
+        for (int i = 0; i < 4; i++) {
+            all.add("leases " + i);
+            all.add("recalls " + i);
+            all.add("known " + i);
+            all.add("load " + i);
+        }
+        for (int file = 0; file < 31; file++) {
+            all.add("links " + file);
+            all.add("anchor " + file);
+        }
+        for (int directory = 0; directory < 12; directory++) {
+            all.add("size " + directory);
+            all.add("fragments " + directory);
+            for (int hash = 0; hash < 8; hash++) {
+                all.add("ownerOf " + directory + " " + hash);
+            }
+        }
+        for (int directory = 0; directory < 4; directory++) {
+            for (int name = 0; name < 50; name++) {
+                all.add("byTree " + directory + " " + name);
+                all.add("serverOf " + directory + " " + name);
+                all.add("isFrozen " + directory + " " + name);
+            }
+        }
+        List<List<String>> parts = new ArrayList<>();
+        for (int from = 0; from < all.size(); from += PART) {
+            parts.add(new ArrayList<>(all.subList(from, Math.min(all.size(), from + PART))));
+        }
+        parts.add(Script.lines("pass 1; stepMove; recalls 0; recalls 1; recalls 2; recalls 3",
+            "leases 0; leases 1; leases 2; leases 3; stepMove; stepMove; ownerOf 1 0",
+            "makeDirectory 0 0 40; makeFile 0 0 41; link 0 0 42 0; anchor 0; remove 0 0 0; anchor 0",
+            "lookup 0 0 30; lookup 1 0 30; known 0; known 1; lookup 2 0 20; known 2; balance",
+            "load 0; load 1; load 2; load 3; giveUpMove; pass 5; leases 0; leases 1; leases 2",
+            "leases 3"));
+        return parts;
+    }
+}
