@@ -297,20 +297,25 @@ public final class DirectoryServers {
         return frozen(needDirectory(directory).fragmentOfName(name));
     }
 
-    /** Begins a move from the server with the most load to that with the least, and halves loads. */
+    /** Begins a move from the most loaded server to the least loaded one, and halves loads. */
     public int balance() throws IllegalStateException {
         needNoMove();
         int most = FIRST_SERVER;
         int least = FIRST_SERVER;
-        for (int server = FIRST_SERVER; server < SERVERS; server++) {
-            if (loadOfServer(server) > loadOfServer(most)) {
+        int mostLoad = loadOfServer(FIRST_SERVER);
+        int leastLoad = mostLoad;
+        for (int server = FIRST_SERVER + 1; server < SERVERS; server++) {
+            int serverLoad = loadOfServer(server);
+            if (serverLoad > mostLoad) {
                 most = server;
+                mostLoad = serverLoad;
             }
-            if (loadOfServer(server) < loadOfServer(least)) {
+            if (serverLoad < leastLoad) {
                 least = server;
+                leastLoad = serverLoad;
             }
         }
-        int unevenness = loadOfServer(most) - loadOfServer(least);
+        int unevenness = mostLoad - leastLoad;
         Fragment chosen = null;
         if (unevenness >= LEAST_UNEVENNESS) {
             chosen = heaviestFragment(most, unevenness / 2);

@@ -193,6 +193,11 @@ public final class ClientCallsTest {
             "rename 0 0 0 3 1 = " + S + "; rename 0 1 0 3 1 = " + S + "; rename 0 1 0 1 1 = ok",
             "rename 0 1 1 4 0 = ok; rename 0 0 0 3 0 = ok; rename 0 0 1 1 0 = " + S,
             "byTree 3 0 = -3; rename 0 0 1 0 2 = ok; byTree 0 2 = -6; size 0 = 1");
+        Script.run("7 a directory inherits by its new name, in the same directory too",
+            "makeDirectory 0 0 0 = 1; split 0 0 = 2; beginMove 0 4 2 = ok; stepMove = 1",
+            "stepMove = 2; serverOf 1 0 = 0; rename 0 0 0 0 2 = ok; serverOf 1 0 = 2",
+            "beginMove 0 4 1 = ok; isFrozen 1 0 = true; giveUpMove = 0; rename 0 0 2 0 1 = ok",
+            "serverOf 1 0 = 0");
         Script.run("7 a directory whose fragment moves may be renamed",
             "makeDirectory 0 0 0 = 1; makeDirectory 0 0 1 = 2; beginMove 1 0 3 = ok",
             "rename 0 0 0 2 0 = ok; isFrozen 1 0 = true; isFrozen 2 0 = false; stepMove = 1",

@@ -219,6 +219,13 @@ public final class FragmentCallsTest {
         Script.run("22 each fragment's load is halved, not their sum",
             "makeDirectory 0 0 0 = 1; makeDirectory 0 1 0 = 2; lookup 0 2 0 = -1; load 0 = 3",
             "balance = -1; load 0 = 0");
+        Script.run("22 a load of 1 is enough to move",
+            "split 0 0 = 2; lookup 0 0 0 = -1; lookup 1 0 0 = -1; lookup 2 0 0 = -1",
+            "lookup 3 0 0 = -1; lookup 0 0 2 = -1; load 0 = 5; balance = 0; isFrozen 0 2 = true",
+            "isFrozen 0 0 = false; load 0 = 2");
+        Script.run("22 a load of 0 is not",
+            "split 0 0 = 2; lookup 0 0 0 = -1; lookup 1 0 0 = -1; lookup 2 0 0 = -1",
+            "lookup 3 0 0 = -1; load 0 = 4; balance = -1; isFrozen 0 2 = false; load 0 = 2");
         Script.run("22 balance throws while a move goes on",
             "lookup 0 0 0 = -1; lookup 0 0 1 = -1; beginMove 0 0 1 = ok; balance = " + S,
             "load 0 = 2; stepMove = 1; balance = " + S + "; load 0 = 2; giveUpMove = 1",
