@@ -15,6 +15,7 @@ public final class NothingChangesTest {
         "split 0 0; split 0 6; split 3 0; lookup 0 0 0; lookup 1 0 0; lookup 2 1 0",
         "lookup 3 2 9; lookup 3 0 9; beginMove 3 0 2; stepMove; stepMove; pass 4",
         "lookup 0 3 0; lookup 0 0 0; lookup 1 1 1; lookup 1 2 7; lookup 2 0 20; lookup 2 0 21",
+        "split 2 0; split 2 0; split 2 0",
     };
 
     private static final String[] CALLS_THAT_THROW = {
@@ -26,11 +27,19 @@ public final class NothingChangesTest {
         "rename 4 0 0 0 30; rename 0 0 50 0 30; rename 0 0 0 0 50; rename 0 9 0 0 30",
         "rename 0 0 0 9 30; rename 0 0 30 0 31; rename 0 0 0 1 5; rename 0 0 2 2 30",
         "rename 1 0 2 1 30; rename 3 0 0 0 0; pass 0; pass 101; leases 4; recalls 4; known 4",
-        "split 0 8; split 9 0; merge 0 8; merge 9 0; merge 0 0; merge 1 0; merge 3 0; merge 3 7",
+        "split 0 8; split 9 0; split 2 0; split 2 1; merge 0 8; merge 9 0; merge 0 0; merge 1 0; merge 3 0; merge 3 7",
         "fragments 9; serverOf 0 50; serverOf 9 0; ownerOf 0 8; ownerOf 9 0; load 4",
         "beginMove 0 8 1; beginMove 0 0 4; beginMove 9 0 1; beginMove 0 0 0; stepMove",
-        "giveUpMove; isFrozen 0 50; isFrozen 9 0; links 9; links -1; anchor 9; byTree 0 50",
-        "byTree 9 0; size 9",
+        "giveUpMove; isFrozen 0 50; isFrozen 9 0; links 9; links -1; anchor 9; anchor -1",
+        "byTree 0 50; byTree 9 0; size 9",
+    };
+
+    private static final String[] CALLS_THAT_THROW_WHILE_ONE_HALF_MOVES = {
+        "remove 0 0 4; makeFile 0 3 2; split 3 4; merge 3 0; merge 3 4; balance; beginMove 1 0 1",
+    };
+
+    private static final String[] CALLS_THAT_THROW_WHILE_A_MERGE_COULD_BE = {
+        "merge 0 4; merge 0 7; split 0 6; rename 0 0 0 0 15; rename 1 1 5 0 7; balance",
     };
 
     private static final String[] CALLS_THAT_THROW_WHILE_MOVING = {
@@ -45,6 +54,8 @@ public final class NothingChangesTest {
         throwing(GROWN, none, CALLS_THAT_THROW);
         throwing(GROWN, new String[] {"beginMove 1 0 1"}, CALLS_THAT_THROW_WHILE_MOVING);
         throwing(GROWN, new String[] {"beginMove 1 0 1; stepMove"}, CALLS_THAT_THROW_WHILE_MOVING);
+        throwing(GROWN, new String[] {"beginMove 0 6 1"}, CALLS_THAT_THROW_WHILE_A_MERGE_COULD_BE);
+        throwing(GROWN, new String[] {"beginMove 3 4 1"}, CALLS_THAT_THROW_WHILE_ONE_HALF_MOVES);
         throwing(full(), none, new String[] {
             "makeDirectory 0 0 30; makeFile 0 0 30; makeDirectory 1 1 30; makeFile 2 1 30"});
         Script.end();
@@ -75,15 +86,49 @@ public final class NothingChangesTest {
     private static void twins(List<String> before, String call, List<String> questions) {
         DirectoryServers one = new DirectoryServers();
         DirectoryServers twin = new DirectoryServers();
+        String title = title(call) + ", " + call;
         for (String row : before) {
             String answer = Script.answer(one, row);
-            Script.due("ahead of " + call + ": " + row, Script.answer(twin, row), answer);
-            Script.due(row + " does not throw", "" + answer.startsWith("throws"), "false");
+            Script.due(title + ", ahead of it: " + row, Script.answer(twin, row), answer);
+            Script.due(title + ", ahead of it: " + row + " throws",
+                    "" + answer.startsWith("throws"), "false");
         }
-        Script.due(call + " throws", "" + Script.answer(one, call).startsWith("throws.I"), "true");
+        Script.due(title + ": it throws",
+                "" + Script.answer(one, call).startsWith("throws.I"), "true");
         for (String question : questions) {
-            Script.due("behind " + call + ": " + question,
+            Script.due(title + ", behind it: " + question,
                     Script.answer(one, question), Script.answer(twin, question));
+        }
+    }
+
+    private static String title(String call) {
+        switch (call.split(" ")[0]) {
+            case "lookup": return "2 when lookup throws, nothing has changed";
+            case "makeDirectory": return "3 when makeDirectory throws, nothing has changed";
+            case "makeFile": return "4 when makeFile throws, nothing has changed";
+            case "link": return "5 when link throws, nothing has changed";
+            case "remove": return "6 when remove throws, nothing has changed";
+            case "rename": return "7 when rename throws, nothing has changed";
+            case "pass": return "8 when pass throws, nothing has changed";
+            case "leases": return "9 when leases throws, nothing has changed";
+            case "recalls": return "10 when recalls throws, nothing has changed";
+            case "known": return "11 when known throws, nothing has changed";
+            case "split": return "12 when split throws, nothing has changed";
+            case "merge": return "13 when merge throws, nothing has changed";
+            case "fragments": return "14 when fragments throws, nothing has changed";
+            case "serverOf": return "15 when serverOf throws, nothing has changed";
+            case "ownerOf": return "16 when ownerOf throws, nothing has changed";
+            case "load": return "17 when load throws, nothing has changed";
+            case "beginMove": return "18 when beginMove throws, nothing has changed";
+            case "stepMove": return "19 when stepMove throws, nothing has changed";
+            case "giveUpMove": return "20 when giveUpMove throws, nothing has changed";
+            case "isFrozen": return "21 when isFrozen throws, nothing has changed";
+            case "balance": return "22 when balance throws, nothing has changed";
+            case "links": return "23 when links throws, nothing has changed";
+            case "anchor": return "24 when anchor throws, nothing has changed";
+            case "byTree": return "25 when byTree throws, nothing has changed";
+            case "size": return "26 when size throws, nothing has changed";
+            default: throw new UnsupportedOperationException(call);
         }
     }
 
