@@ -3,21 +3,9 @@ import java.util.List;
 
 /**
  * When a call throws, nothing has changed: an object with the call and its twin without it answer
- * alike ever after. Each part of the questions is asked of fresh twins, for an object is used for
- * at most 512 calls.
+ * alike ever after.
  */
 public final class NothingChangesTest {
-    private static final int PART = 300;
-
-    private static final String[] GROWN = {
-        "makeFile 0 0 0; makeFile 1 0 1; makeDirectory 0 0 2; makeDirectory 1 1 0",
-        "makeDirectory 2 0 4; link 0 1 5 0; link 1 2 6 0; makeFile 0 2 7; remove 0 0 1",
-        "split 0 0; split 0 6; split 3 0; lookup 0 0 0; lookup 1 0 0; lookup 2 1 0",
-        "lookup 3 2 9; lookup 3 0 9; beginMove 3 0 2; stepMove; stepMove; pass 4",
-        "lookup 0 3 0; lookup 0 0 0; lookup 1 1 1; lookup 1 2 7; lookup 2 0 20; lookup 2 0 21",
-        "split 2 0; split 2 0; split 2 0",
-    };
-
     private static final String[] CALLS_THAT_THROW = {
         "lookup 4 0 0; lookup 0 0 50; lookup 0 9 0; lookup -1 9 0",
         "makeDirectory 4 0 30; makeDirectory 0 0 50; makeDirectory 0 9 0; makeDirectory 0 0 0",
@@ -51,11 +39,11 @@ public final class NothingChangesTest {
 
     public static void main(String[] args) {
         String[] none = {};
-        throwing(GROWN, none, CALLS_THAT_THROW);
-        throwing(GROWN, new String[] {"beginMove 1 0 1"}, CALLS_THAT_THROW_WHILE_MOVING);
-        throwing(GROWN, new String[] {"beginMove 1 0 1; stepMove"}, CALLS_THAT_THROW_WHILE_MOVING);
-        throwing(GROWN, new String[] {"beginMove 0 6 1"}, CALLS_THAT_THROW_WHILE_A_MERGE_COULD_BE);
-        throwing(GROWN, new String[] {"beginMove 3 4 1"}, CALLS_THAT_THROW_WHILE_ONE_HALF_MOVES);
+        throwing(Twins.GROWN, none, CALLS_THAT_THROW);
+        throwing(Twins.GROWN, new String[] {"beginMove 1 0 1"}, CALLS_THAT_THROW_WHILE_MOVING);
+        throwing(Twins.GROWN, new String[] {"beginMove 1 0 1; stepMove"}, CALLS_THAT_THROW_WHILE_MOVING);
+        throwing(Twins.GROWN, new String[] {"beginMove 0 6 1"}, CALLS_THAT_THROW_WHILE_A_MERGE_COULD_BE);
+        throwing(Twins.GROWN, new String[] {"beginMove 3 4 1"}, CALLS_THAT_THROW_WHILE_ONE_HALF_MOVES);
         throwing(full(), none, new String[] {
             "makeDirectory 0 0 30; makeFile 0 0 30; makeDirectory 1 1 30; makeFile 2 1 30"});
         Script.end();
@@ -77,27 +65,14 @@ public final class NothingChangesTest {
         List<String> before = new ArrayList<>(Script.lines(grown));
         before.addAll(Script.lines(more));
         for (String call : Script.lines(calls)) {
-            for (List<String> part : questions()) {
-                twins(before, call, part);
+            DirectoryServers alone = new DirectoryServers();
+            for (String row : before) {
+                Script.answer(alone, row);
             }
-        }
-    }
-
-    private static void twins(List<String> before, String call, List<String> questions) {
-        DirectoryServers one = new DirectoryServers();
-        DirectoryServers twin = new DirectoryServers();
-        String title = title(call) + ", " + call;
-        for (String row : before) {
-            String answer = Script.answer(one, row);
-            Script.due(title + ", ahead of it: " + row, Script.answer(twin, row), answer);
-            Script.due(title + ", ahead of it: " + row + " throws",
-                    "" + answer.startsWith("throws"), "false");
-        }
-        Script.due(title + ": it throws",
-                "" + Script.answer(one, call).startsWith("throws.I"), "true");
-        for (String question : questions) {
-            Script.due(title + ", behind it: " + question,
-                    Script.answer(one, question), Script.answer(twin, question));
+            String answer = Script.answer(alone, call);
+            Script.due(title(call) + ", " + call + ": it throws",
+                    "" + answer.startsWith("throws.I"), "true");
+            Twins.compare(title(call), before, call, answer, List.of(), List.of());
         }
     }
 
@@ -130,44 +105,5 @@ public final class NothingChangesTest {
             case "size": return "26 when size throws, nothing has changed";
             default: throw new UnsupportedOperationException(call);
         }
-    }
-
-    private static List<List<String>> questions() {
-        List<String> all = new ArrayList<>();
-        for (int i = 0; i < 4; i++) {
-            all.add("leases " + i);
-            all.add("recalls " + i);
-            all.add("known " + i);
-            all.add("load " + i);
-        }
-        for (int file = 0; file < 31; file++) {
-            all.add("links " + file);
-            all.add("anchor " + file);
-        }
-        for (int directory = 0; directory < 12; directory++) {
-            all.add("size " + directory);
-            all.add("fragments " + directory);
-            for (int hash = 0; hash < 8; hash++) {
-                all.add("ownerOf " + directory + " " + hash);
-            }
-        }
-        for (int directory = 0; directory < 4; directory++) {
-            for (int name = 0; name < 50; name++) {
-                all.add("byTree " + directory + " " + name);
-                all.add("serverOf " + directory + " " + name);
-                all.add("isFrozen " + directory + " " + name);
-            }
-        }
-        List<List<String>> parts = new ArrayList<>();
-        for (int from = 0; from < all.size(); from += PART) {
-            parts.add(new ArrayList<>(all.subList(from, Math.min(all.size(), from + PART))));
-        }
-        parts.add(Script.lines("pass 1; stepMove; recalls 0; recalls 1; recalls 2; recalls 3",
-            "leases 0; leases 1; leases 2; leases 3; stepMove; stepMove; ownerOf 1 0",
-            "makeDirectory 0 0 40; makeFile 0 0 41; link 0 0 42 0; anchor 0; remove 0 0 0; anchor 0",
-            "lookup 0 0 30; lookup 1 0 30; known 0; known 1; lookup 2 0 20; known 2; balance",
-            "load 0; load 1; load 2; load 3; giveUpMove; pass 5; leases 0; leases 1; leases 2",
-            "leases 3"));
-        return parts;
     }
 }

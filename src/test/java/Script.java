@@ -62,7 +62,7 @@ final class Script {
         run(title, grown, "remove 0 0 4 = -7", call.replace("#", "5") + " = IOOBE");
     }
 
-    private static String written(String answer) {
+    static String written(String answer) {
         switch (answer) {
             case "IAE": return "throws.IllegalArgumentException";
             case "IOOBE": return "throws.IndexOutOfBoundsException";
