@@ -8,7 +8,6 @@ import java.util.List;
  */
 public final class LeavesAloneTest {
     private static final String MOVING = "beginMove 1 3 2";
-    private static final String[] LOADED = {Twins.LOADS, Twins.MOVE_STEPPED};
 
     public static void main(String[] args) {
         lookups();
@@ -28,10 +27,10 @@ public final class LeavesAloneTest {
     private static void lookups() {
         changes("2 lookup that asks the server changes a lease and a load alone", "",
             "lookup 3 1 5 = 0", "leases 3 = 3; load 0 = 23",
-            Twins.LOADS, Twins.MOVE_STEPPED, Twins.MOVE_GIVEN_UP, Twins.LEASE_ENDS, leased(3));
+            Twins.LEASE_ENDS, leased(3), Twins.BALANCED, Twins.LOADS);
         changes("2 lookup that asks the server changes a lease and a load alone", MOVING,
             "lookup 3 1 5 = 0", "leases 3 = 3; load 0 = 23",
-            Twins.LOADS, Twins.MOVE_STEPPED, Twins.MOVE_GIVEN_UP, Twins.LEASE_ENDS, leased(3));
+            Twins.LEASE_ENDS, leased(3), Twins.MOVE_RECALLS, Twins.BALANCED, Twins.LOADS);
         changes("2 lookup of a name that the client knows changes nothing else", "",
             "lookup 1 2 7 = 2", "known 1 = 1", leased(1));
         changes("2 lookup of a name that the client knows changes nothing else", MOVING,
@@ -39,124 +38,120 @@ public final class LeavesAloneTest {
     }
 
     private static void makes() {
+        String empty = "size 5 = 0; fragments 5 = 1; ownerOf 5 * = -1; byTree 5 * = -1;"
+            + "serverOf 5 * = 0; isFrozen 5 * = false;";
         changes("3 makeDirectory changes the name, its load and the new directory alone", "",
-            "makeDirectory 1 3 28 = 5",
-            "size 3 = 1; byTree 3 28 = -7; load 0 = 23; size 5 = 0; fragments 5 = 1;"
-            + "ownerOf 5 * = -1; byTree 5 * = -1; serverOf 5 * = 0; isFrozen 5 * = false",
-            Twins.LOADS, Twins.MOVE_STEPPED, Twins.NUMBERS);
+            "makeDirectory 1 3 28 = 5", empty + "size 3 = 1; byTree 3 28 = -7; load 0 = 23",
+            Twins.BALANCED, Twins.NUMBERS, Twins.LOADS);
         changes("3 makeDirectory changes the name, its load and the new directory alone", MOVING,
-            "makeDirectory 1 0 21 = 5",
-            "size 0 = 5; byTree 0 21 = -7; lookup * 0 21 = -7; load 0 = 23; size 5 = 0;"
-            + "fragments 5 = 1; ownerOf 5 * = -1; byTree 5 * = -1; serverOf 5 * = 0;"
-            + "isFrozen 5 * = false; leases 2 = 2; recalls 2 = 1", Twins.LOADS,
-            Twins.MOVE_STEPPED, Twins.MOVE_GIVEN_UP, Twins.NUMBERS, Twins.LEASE_ENDS, leased(2));
+            "makeDirectory 1 0 21 = 5", empty + "size 0 = 5; byTree 0 21 = -7;"
+            + "lookup * 0 21 = -7; load 0 = 23; leases 2 = 2; recalls 2 = 1", Twins.LEASE_ENDS,
+            leased(2), Twins.MOVE_RECALLS, Twins.BALANCED, Twins.NUMBERS, Twins.LOADS);
         changes("4 makeFile changes the name, its load and the new file alone", "",
-            "makeFile 0 0 21 = 4",
-            "size 0 = 5; byTree 0 21 = 4; lookup * 0 21 = 4; load 0 = 23; links 4 = 1;"
-            + "anchor 4 = 21; leases 2 = 2; recalls 2 = 1", Twins.LOADS, Twins.MOVE_STEPPED,
-            Twins.MOVE_GIVEN_UP, Twins.NUMBERS, Twins.LEASE_ENDS, leased(2));
+            "makeFile 0 0 21 = 4", "size 0 = 5; byTree 0 21 = 4; lookup * 0 21 = 4; load 0 = 23;"
+            + "links 4 = 1; anchor 4 = 21; leases 2 = 2; recalls 2 = 1",
+            Twins.LEASE_ENDS, leased(2), Twins.BALANCED, Twins.NUMBERS, Twins.LOADS);
         changes("4 makeFile changes the name, its load and the new file alone", MOVING,
             "makeFile 0 3 40 = 4", "size 3 = 1; byTree 3 40 = 4; load 2 = 2; links 4 = 1;"
-            + "anchor 4 = 340", Twins.LOADS, Twins.MOVE_STEPPED, Twins.NUMBERS);
+            + "anchor 4 = 340", Twins.BALANCED, Twins.NUMBERS, Twins.LOADS);
     }
 
     private static void links() {
         changes("5 link changes the name, its load and the links of the file alone", "",
-            "link 3 2 30 2 = 2", "size 2 = 3; byTree 2 30 = 2; links 2 = 2; load 0 = 23", LOADED);
+            "link 3 2 30 2 = 2", "size 2 = 3; byTree 2 30 = 2; links 2 = 2; load 0 = 23",
+            Twins.BALANCED, Twins.LOADS);
         changes("5 link changes the name, its load and the links of the file alone", MOVING,
             "link 0 0 20 2 = 2", "size 0 = 5; byTree 0 20 = 2; lookup * 0 20 = 2; links 2 = 2;"
-            + "load 0 = 23; leases 2 = 2; recalls 2 = 1", Twins.LOADS, Twins.MOVE_STEPPED,
-            Twins.MOVE_GIVEN_UP, Twins.LEASE_ENDS, leased(2));
+            + "load 0 = 23; leases 2 = 2; recalls 2 = 1",
+            Twins.LEASE_ENDS, leased(2), Twins.MOVE_RECALLS, Twins.BALANCED, Twins.LOADS);
     }
 
     private static void removes() {
         changes("6 remove of a link changes the name, its load and the file alone", "",
             "remove 1 1 5 = 0", "size 1 = 1; byTree 1 5 = -1; lookup * 1 5 = -1; links 0 = 2;"
-            + "load 0 = 23", Twins.LOADS, Twins.MOVE_STEPPED, Twins.AGES);
+            + "load 0 = 23", Twins.BALANCED, Twins.AGES, Twins.LOADS);
         changes("6 remove of a link changes the name, its load and the file alone", MOVING,
             "remove 1 0 13 = 3", "size 0 = 3; byTree 0 13 = -1; lookup * 0 13 = -1; links 3 = 0;"
-            + "anchor 3 = -1; load 0 = 23", LOADED);
-        String gone = "size 0 = 3; byTree 0 4 = -1; lookup * 0 4 = -1; size 3 = IOOBE;"
-            + "fragments 3 = IOOBE; ownerOf 3 * = IOOBE; byTree 3 * = IOOBE; serverOf 3 * = IOOBE;"
-            + "isFrozen 3 * = IOOBE; lookup * 3 * = IOOBE; leases 0 = 1; load 0 = 23; load 2 = 0";
-        changes("6 remove of a directory changes the name, its load and the directory alone", "",
-            "remove 0 0 4 = -5", gone, Twins.LOADS, Twins.MOVE_STEPPED, Twins.MOVE_GIVEN_UP,
-            Twins.NUMBERS, Twins.LEASE_ENDS, leased(0));
-        changes("6 remove of a directory changes the name, its load and the directory alone",
-            MOVING, "remove 0 0 4 = -5", gone, Twins.LOADS, Twins.MOVE_STEPPED,
-            Twins.MOVE_GIVEN_UP, Twins.NUMBERS, Twins.LEASE_ENDS, leased(0));
+            + "anchor 3 = -1; load 0 = 23", Twins.BALANCED, Twins.LOADS);
+        for (String more : new String[] {"", MOVING}) {
+            changes("6 remove of a directory changes the name, its load and the directory alone",
+                more, "remove 0 0 4 = -5", "size 0 = 3; byTree 0 4 = -1; lookup * 0 4 = -1;"
+                + "size 3 = IOOBE; fragments 3 = IOOBE; ownerOf 3 * = IOOBE; byTree 3 * = IOOBE;"
+                + "serverOf 3 * = IOOBE; isFrozen 3 * = IOOBE; lookup * 3 * = IOOBE; leases 0 = 1;"
+                + "load 0 = 23; load 2 = 0",
+                Twins.LEASE_ENDS, leased(0), Twins.BALANCED, Twins.NUMBERS, Twins.LOADS);
+        }
     }
 
     private static void renames() {
         changes("7 rename of a link changes both names, their loads and the anchor alone", "",
             "rename 1 0 0 1 30 = ok", "size 0 = 3; size 1 = 3; byTree 0 0 = -1; byTree 1 30 = 0;"
             + "lookup * 0 0 = -1; anchor 0 = 130; leases 0 = 1; leases 1 = 2; recalls 0 = 2;"
-            + "load 0 = 24", Twins.LOADS, Twins.MOVE_STEPPED, Twins.MOVE_GIVEN_UP, Twins.AGES,
-            Twins.LEASE_ENDS, leased(0), leased(1));
+            + "load 0 = 24", Twins.LEASE_ENDS, leased(0), leased(1), Twins.BALANCED, Twins.AGES,
+            Twins.LOADS);
         changes("7 rename of a link changes both names, their loads and the anchor alone", MOVING,
             "rename 1 0 13 3 30 = ok", "size 0 = 3; size 3 = 1; byTree 0 13 = -1; byTree 3 30 = 3;"
-            + "lookup * 0 13 = -1; anchor 3 = 330; load 0 = 23; load 2 = 2", LOADED);
+            + "lookup * 0 13 = -1; anchor 3 = 330; load 0 = 23; load 2 = 2",
+            Twins.BALANCED, Twins.LOADS);
         changes("7 rename of a directory changes both names, their loads and its place alone", "",
             "rename 2 0 4 1 30 = ok", "size 0 = 3; size 1 = 3; byTree 0 4 = -1; byTree 1 30 = -5;"
-            + "lookup * 0 4 = -1; load 0 = 24", Twins.LOADS, Twins.MOVE_STEPPED, Twins.PLACES);
+            + "lookup * 0 4 = -1; load 0 = 24", Twins.BALANCED, Twins.LOADS, Twins.PLACES);
         changes("7 rename of a directory changes both names, their loads and its place alone", "",
             "rename 2 1 0 3 1 = ok", "size 1 = 1; size 3 = 1; byTree 1 0 = -1; byTree 3 1 = -4;"
             + "lookup * 1 0 = -1; lookup * 3 1 = -4; serverOf 2 * = 2; load 0 = 19; load 2 = 6;"
-            + "leases 2 = 2", Twins.LOADS, Twins.MOVE_STEPPED, Twins.MOVE_GIVEN_UP, Twins.PLACES,
-            Twins.LEASE_ENDS, leased(2));
+            + "leases 2 = 2", Twins.LEASE_ENDS, leased(2), Twins.BALANCED, Twins.LOADS,
+            Twins.PLACES);
         changes("7 rename of a directory changes both names, their loads and its place alone",
             MOVING, "rename 2 0 2 0 29 = ok", "byTree 0 2 = -1; byTree 0 29 = -3;"
-            + "lookup * 0 2 = -1; load 0 = 24", Twins.LOADS, Twins.MOVE_STEPPED, Twins.PLACES);
+            + "lookup * 0 2 = -1; load 0 = 24", Twins.BALANCED, Twins.LOADS);
     }
 
     private static void time() {
         changes("8 pass changes the time alone while no lease ends", "", "pass 5 = 9",
-            "pass 1 = 10", Twins.LEASE_ENDS);
+            "", Twins.TIME, Twins.LEASE_ENDS);
         changes("8 pass changes the time alone while no lease ends", MOVING, "pass 5 = 9",
-            "pass 1 = 10", Twins.LEASE_ENDS);
+            "", Twins.TIME, Twins.LEASE_ENDS);
         changes("8 pass ends leases and recalls none", MOVING, "pass 6 = 10",
-            "pass 1 = 11; leases 0 = 1; leases 1 = 2; leases 2 = 2; leases 3 = 0",
-            Twins.LEASE_ENDS, Twins.MOVE_STEPPED, Twins.MOVE_GIVEN_UP,
-            leased(0), leased(1), leased(2), leased(3));
+            "leases 0 = 1; leases 1 = 2; leases 2 = 2; leases 3 = 0", Twins.TIME,
+            Twins.LEASE_ENDS, leased(0), leased(1), leased(2), leased(3), Twins.MOVE_RECALLS);
     }
 
     private static void fragments() {
         changes("12 split changes the fragments alone", "", "split 0 7 = 4", "fragments 0 = 4",
-            Twins.LOADS, Twins.MOVE_STEPPED, Twins.PLACES);
+            Twins.LOADS, Twins.PLACES);
         changes("12 split changes the fragments alone", MOVING, "split 3 1 = 3",
             "fragments 3 = 3", Twins.LOADS);
-        changes("13 merge changes the fragments alone", "", "merge 2 1 = 3", "fragments 2 = 3",
-            Twins.LOADS);
+        changes("13 merge changes the fragments alone", "", "merge 2 1 = 3", "fragments 2 = 3");
         changes("13 merge changes the fragments alone", MOVING, "merge 0 4 = 2",
-            "fragments 0 = 2", Twins.LOADS, Twins.MOVE_STEPPED, Twins.PLACES);
+            "fragments 0 = 2", Twins.BALANCED, Twins.LOADS, Twins.PLACES);
     }
 
     private static void moves() {
         changes("18 beginMove freezes and changes nothing else", "", "beginMove 1 3 2 = ok",
-            "isFrozen 1 * = true; isFrozen 2 * = true; giveUpMove = 0",
-            Twins.MOVE_STEPPED, Twins.MOVE_GIVEN_UP, Twins.PLACES);
+            "isFrozen 1 * = true; isFrozen 2 * = true; giveUpMove = 0", Twins.MOVE_TARGET,
+            Twins.MOVE_RECALLS, Twins.MOVE_GIVEN_UP, Twins.BALANCED, Twins.PLACES);
         changes("19 the first step recalls and changes nothing else", MOVING, "stepMove = 1",
             "leases 1 = 1; leases 2 = 2; leases 3 = 1; recalls 1 = 2; recalls 2 = 1;"
-            + "recalls 3 = 1; giveUpMove = 1", Twins.MOVE_STEPPED, Twins.MOVE_GIVEN_UP,
-            Twins.PLACES, Twins.LEASE_ENDS, leased(1), leased(2), leased(3));
+            + "recalls 3 = 1; giveUpMove = 1", Twins.LEASE_ENDS, leased(1), leased(2), leased(3),
+            Twins.MOVE_TARGET, Twins.MOVE_RECALLS, Twins.MOVE_GIVEN_UP, Twins.PLACES);
         String owned = "ownerOf 1 * = 2; serverOf 1 * = 2; serverOf 2 * = 2; isFrozen 1 * = false;"
-            + "isFrozen 2 * = false; giveUpMove = ISE;";
+            + "isFrozen 2 * = false; giveUpMove = ISE; load 0 = 14;";
         changes("19 the second step changes the owner, ends the move, and nothing else",
-            MOVING + "; stepMove", "stepMove = 2", owned + "load 0 = 14; load 2 = 9",
-            Twins.LOADS, Twins.MOVE_STEPPED, Twins.MOVE_GIVEN_UP, Twins.PLACES);
+            MOVING + "; stepMove", "stepMove = 2", owned + "load 2 = 9", Twins.MOVE_TARGET,
+            Twins.MOVE_RECALLS, Twins.BALANCED, Twins.LOADS, Twins.PLACES);
         changes("19 the second step changes the owner, ends the move, and nothing else",
             MOVING + "; stepMove; lookup 1 1 1; lookup 0 2 7", "stepMove = 2",
-            owned + "load 0 = 14; load 2 = 11",
-            Twins.LOADS, Twins.MOVE_STEPPED, Twins.MOVE_GIVEN_UP, Twins.PLACES);
+            owned + "load 2 = 11", Twins.MOVE_TARGET, Twins.MOVE_RECALLS, Twins.BALANCED,
+            Twins.LOADS, Twins.PLACES);
     }
 
     private static void movesGivenUp() {
         String title = "20 giveUpMove ends the move and changes nothing else";
-        String over = "isFrozen 1 * = false; isFrozen 2 * = false";
-        changes(title, MOVING, "giveUpMove = 0", over + "; giveUpMove = ISE",
-            Twins.MOVE_STEPPED, Twins.MOVE_GIVEN_UP, Twins.PLACES);
-        changes(title, MOVING + "; stepMove; lookup 1 1 1", "giveUpMove = 1",
-            over + "; giveUpMove = ISE", Twins.MOVE_STEPPED, Twins.MOVE_GIVEN_UP, Twins.PLACES);
+        String over = "isFrozen 1 * = false; isFrozen 2 * = false; giveUpMove = ISE";
+        changes(title, MOVING, "giveUpMove = 0", over,
+            Twins.MOVE_TARGET, Twins.MOVE_RECALLS, Twins.PLACES);
+        changes(title, MOVING + "; stepMove; lookup 1 1 1", "giveUpMove = 1", over,
+            Twins.MOVE_TARGET, Twins.MOVE_RECALLS, Twins.PLACES);
     }
 
     private static void balances() {
@@ -165,11 +160,11 @@ public final class LeavesAloneTest {
             frozen.append("isFrozen 0 " + name + " = " + ((5 * name + 3) % 8 < 4) + ";");
         }
         changes("22 balance begins a move, halves the loads and changes nothing else", "",
-            "balance = 0", frozen + "load 0 = 9; load 2 = 0; giveUpMove = 0",
-            Twins.LOADS, Twins.MOVE_STEPPED, Twins.MOVE_GIVEN_UP, Twins.PLACES);
+            "balance = 0", frozen + "load 0 = 9; load 2 = 0; giveUpMove = 0", Twins.MOVE_TARGET,
+            Twins.MOVE_RECALLS, Twins.MOVE_GIVEN_UP, Twins.BALANCED, Twins.LOADS, Twins.PLACES);
         changes("22 balance that begins no move halves the loads and changes nothing else",
             "balance; giveUpMove; balance; giveUpMove", "balance = -1", "load 0 = 1",
-            Twins.LOADS, Twins.MOVE_STEPPED);
+            Twins.BALANCED, Twins.LOADS);
     }
 
     private static void questions() {

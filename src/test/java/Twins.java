@@ -10,10 +10,13 @@ import java.util.Map;
  */
 final class Twins {
     // What the state holds that no single question tells; each part is a run of calls of its own.
+    static final String TIME = "time";
     static final String LEASE_ENDS = "lease ends";
     static final String LEASED_NAMES = "leased names";
-    static final String MOVE_STEPPED = "move stepped";
+    static final String MOVE_TARGET = "target of the move";
+    static final String MOVE_RECALLS = "recalls of the move";
     static final String MOVE_GIVEN_UP = "move given up";
+    static final String BALANCED = "balanced";
     static final String NUMBERS = "numbers";
     static final String AGES = "ages";
     static final String LOADS = "loads";
@@ -118,17 +121,21 @@ final class Twins {
             int end = Math.min(all.size(), from + QUESTIONS_OF_A_PART);
             parts.put("questions from " + from, new ArrayList<>(all.subList(from, end)));
         }
+        parts.put(TIME, Script.lines("pass 1; pass 100"));
         parts.put(LEASE_ENDS, leaseEnds());
         for (int client = 0; client < 4; client++) {
             parts.put(LEASED_NAMES + " of " + client, leasedNames(client));
         }
-        parts.put(MOVE_STEPPED, Script.lines("stepMove; recalls 0; recalls 1; recalls 2; recalls 3",
-            "leases 0; leases 1; leases 2; leases 3; stepMove;", owners(), "stepMove; balance",
-            "load 0; load 1; load 2; load 3; pass 1"));
-        parts.put(MOVE_GIVEN_UP, Script.lines("giveUpMove; giveUpMove; isFrozen 1 0; isFrozen 0 0",
-            "leases 0; leases 1; leases 2; leases 3;", owners(), "balance; giveUpMove; pass 1"));
+        String leases = "recalls 0; recalls 1; recalls 2; recalls 3;"
+                + "leases 0; leases 1; leases 2; leases 3;";
+        parts.put(MOVE_TARGET, Script.lines("stepMove; stepMove;", owners(), "stepMove"));
+        parts.put(MOVE_RECALLS, Script.lines("stepMove;", leases, "giveUpMove;", leases));
+        parts.put(MOVE_GIVEN_UP, Script.lines("giveUpMove; giveUpMove; isFrozen 1 0; isFrozen 0 0;",
+            leases, owners(), "stepMove"));
+        parts.put(BALANCED, Script.lines("giveUpMove; balance; load 0; load 1; load 2; load 3",
+            "isFrozen 0 0; isFrozen 1 0; isFrozen 2 0; isFrozen 3 0; stepMove; stepMove;", owners()));
         parts.put(NUMBERS, Script.lines("giveUpMove; makeDirectory 0 0 40; makeFile 0 0 41",
-            "makeDirectory 3 3 42; makeFile 3 3 43; size 4; links 4; anchor 4; pass 1"));
+            "makeDirectory 3 3 42; makeFile 3 3 43; size 4; links 4; anchor 4"));
         parts.put(AGES, Script.lines("giveUpMove; anchor 0; link 0 0 42 0; anchor 0; remove 0 0 0",
             "anchor 0; link 0 0 0 0; anchor 0; remove 0 1 5; anchor 0; remove 0 2 6; anchor 0",
             "remove 0 0 42; anchor 0; remove 0 0 0; anchor 0; links 0; anchor 2; anchor 3"));
